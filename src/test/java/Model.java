@@ -322,11 +322,15 @@ final class Model {
         return was;
     }
 
-    int seenOff(int curve, Sight s) {
+    int seen(int curve, int c, int t) {
         go();
-        int[] q = path[curve][s.t];
-        int[] l = lens[s.a];
-        return Math.abs((l[0] * q[0] + l[1] * q[1] + l[2] * q[2]) / 10 - s.b);
+        int[] q = path[curve][t];
+        int[] l = lens[c];
+        return (l[0] * q[0] + l[1] * q[1] + l[2] * q[2]) / 10;
+    }
+
+    private int seenOff(int curve, Sight s) {
+        return Math.abs(seen(curve, s.a, s.t) - s.b);
     }
 
     private boolean fitsOne(int curve, Sight s) {

@@ -16,10 +16,14 @@ public final class ModelTest {
     private final WasItOut real = new WasItOut();
     private final Model model = new Model();
     private final List<String> told = new ArrayList<>();
+    private final boolean ofJudges;
+    private int trueCurve;
     private int calls;
 
     private ModelTest(long seed) {
         dice = new Random(seed);
+        ofJudges = seed % 4 == 3;
+        trueCurve = draw(0, 188);
     }
 
     public static void main(String[] args) {
@@ -39,9 +43,23 @@ public final class ModelTest {
     }
 
     private boolean goesRight() {
-        boolean right = true;
+        boolean right = ofJudges || begins();
         while (right && calls < CALLS) {
             right = step();
+        }
+        return right;
+    }
+
+    /** A law, a ball in the air and cameras, so that most of what follows is about something. */
+    private boolean begins() {
+        boolean right = text() && text();
+        int[] low = {-600, -40, 5, -5, -12, -15};
+        int[] high = {0, 40, 300, 60, 12, 15};
+        for (int i = 0; i < 6 && right; i++) {
+            right = ball(i, draw(low[i], high[i]));
+        }
+        for (int i = 0; i < 12 && right; i++) {
+            right = lens(i / 3, i % 3, draw(-10, 10));
         }
         return right;
     }
@@ -75,28 +93,31 @@ public final class ModelTest {
 
     private boolean step() {
         int way = dice.nextInt(100);
-        if (way < 6) {
-            return text();
-        }
-        if (way < 14) {
-            return balls();
-        }
-        if (way < 32) {
-            return sights();
-        }
-        if (way < 48) {
+        if (ofJudges && way < 80) {
             return judges();
         }
-        if (way < 54) {
+        if (way < 3) {
+            return text();
+        }
+        if (way < 6) {
+            return balls();
+        }
+        if (way < 26) {
+            return sights();
+        }
+        if (way < 28) {
+            return judges();
+        }
+        if (way < 34) {
             return worlds();
         }
-        return way < 70 ? flights() : questions();
+        return way < 50 ? flights() : questions();
     }
 
     private String number(int low, int high) {
-        int v = dice.nextInt(12) == 0 ? (dice.nextBoolean() ? low - 1 : high + 1) : draw(low, high);
+        int v = dice.nextInt(40) == 0 ? (dice.nextBoolean() ? low - 1 : high + 1) : draw(low, high);
         String figures = String.valueOf(v);
-        if (dice.nextInt(30) == 0) {
+        if (dice.nextInt(50) == 0) {
             figures = new String[] {"-0", "", "-", "00", "007", "00001", "12345", "-01", "+1", "1 "}[draw(0, 9)];
         }
         return figures;
@@ -119,7 +140,7 @@ public final class ModelTest {
             case 6:
                 return "k" + number(-9999, 9999) + "," + number(0, 9999) + "," + number(0, 9999) + ";";
             case 7:
-                return "k" + number(-300, 900) + "," + number(0, 900) + "," + number(0, 900) + ";";
+                return "k" + number(-300, 300) + "," + number(0, 300) + "," + number(0, 900) + ";";
             case 8:
                 return "l" + number(-9999, 9999) + "," + number(-9999, 9999) + ";";
             default:
@@ -128,7 +149,7 @@ public final class ModelTest {
     }
 
     private String spoilt(String s) {
-        if (dice.nextInt(8) != 0 || s.isEmpty()) {
+        if (dice.nextInt(4) != 0 || s.isEmpty()) {
             return s;
         }
         int at = dice.nextInt(s.length());
@@ -149,6 +170,9 @@ public final class ModelTest {
             right = same("wipe()", WasItOut::wipe, Model::wipe);
         }
         StringBuilder s = new StringBuilder();
+        if (dice.nextBoolean()) {
+            s.append("k").append(draw(-300, 300)).append(",").append(draw(0, 300)).append(",900;");
+        }
         int many = dice.nextInt(dice.nextInt(6) == 0 ? 40 : 8);
         for (int i = 0; i < many; i++) {
             s.append(item());
@@ -178,52 +202,57 @@ public final class ModelTest {
         int[] wide = {100000, 100000, 100000, 2000, 2000, 2000};
         int[] usual = {400, 300, 300, 60, 30, 40};
         int most = what < 0 || what > 5 ? 100 : dice.nextInt(4) == 0 ? wide[what] : usual[what];
-        int v = near(what == 2 ? 0 : -most, most);
+        return ball(what, near(what == 2 ? 0 : -most, most));
+    }
+
+    private boolean ball(int what, int v) {
         return same("ball(" + what + ", " + v + ")", x -> x.ball(what, v), x -> x.ball(what, v));
     }
 
     private boolean sights() {
-        switch (dice.nextInt(7)) {
+        switch (dice.nextInt(14)) {
             case 0:
+                return lens(near(0, 3), near(0, 2), near(-10, 10));
             case 1:
-                return lens();
+                trueCurve = draw(0, 188);
+                return same("noSights()", WasItOut::noSights, Model::noSights);
             case 2:
             case 3:
-                return blur();
-            case 4:
                 return mark();
+            case 4:
             case 5:
                 return heard();
+            case 6:
+            case 7:
+                return leave();
             default:
-                return dice.nextInt(3) == 0 ? same("noSights()", WasItOut::noSights, Model::noSights) : leave();
+                return blur();
         }
     }
 
-    private boolean lens() {
-        int c = near(0, 3);
-        int what = near(0, 2);
-        int v = near(-10, 10);
+    private boolean lens(int c, int what, int v) {
         return same("camera(" + c + ", " + what + ", " + v + ")", x -> x.camera(c, what, v), x -> x.camera(c, what, v));
     }
 
-    /** Of a curve that there is, so that something often fits. */
+    /** Mostly of one curve, so that something often fits; at times of another. */
+    private int someCurve() {
+        return dice.nextInt(8) == 0 ? draw(0, 188) : trueCurve;
+    }
+
     private boolean blur() {
         int c = near(0, 3);
-        int t = dice.nextBoolean() ? near(0, 600) : near(0, 30);
-        int n = near(-1000000, 1000000);
-        if (dice.nextInt(5) > 0 && c >= 0 && c < 4 && t >= 0 && t <= 600) {
-            Model.Sight s = new Model.Sight('b', c, 0, t, 0, 0);
-            n = model.seenOff(draw(0, 188), s) * (dice.nextInt(5) == 0 ? -1 : 1) + draw(-5, 5);
-        }
-        int seen = n;
-        int e = dice.nextInt(3) == 0 ? near(0, 1000) : draw(0, 60);
+        int t = dice.nextInt(5) == 0 ? near(0, 600) : near(0, 20);
+        boolean wild = dice.nextInt(12) == 0 || c < 0 || c > 3 || t < 0 || t > 600;
+        int e = dice.nextInt(12) == 0 ? near(0, 1000) : draw(0, 100);
+        int slack = e < 0 || e > 1000 ? 0 : e / 2 + 1;
+        int seen = wild ? near(-1000000, 1000000) : model.seen(someCurve(), c, t) + draw(-slack, slack);
         return same("blur(" + c + ", " + t + ", " + seen + ", " + e + ")",
             x -> x.blur(c, t, seen, e), x -> x.blur(c, t, seen, e));
     }
 
     private int[] place() {
-        int curve = draw(0, 188);
-        if (dice.nextInt(5) == 0 || model.touch(curve, 0) < 0) {
+        int curve = someCurve();
+        if (dice.nextInt(12) == 0 || model.touch(curve, 0) < 0) {
             return new int[] {near(-100000, 100000), near(-100000, 100000), near(0, 600)};
         }
         return new int[] {model.touch(curve, 1) + draw(-9, 9), model.touch(curve, 2) + draw(-9, 9),
@@ -232,16 +261,16 @@ public final class ModelTest {
 
     private boolean mark() {
         int[] p = place();
-        int e = dice.nextInt(3) == 0 ? near(0, 1000) : draw(0, 80);
+        int e = dice.nextInt(8) == 0 ? near(0, 1000) : draw(5, 80);
         return same("mark(" + p[0] + ", " + p[1] + ", " + e + ")", x -> x.mark(p[0], p[1], e),
             x -> x.mark(p[0], p[1], e));
     }
 
     private boolean heard() {
         int[] p = place();
-        int e = dice.nextInt(3) == 0 ? near(0, 1000) : draw(0, 6);
+        int e = dice.nextInt(8) == 0 ? near(0, 1000) : draw(1, 6);
         int s = dice.nextBoolean() ? near(1, 500) : draw(1, 12);
-        int t = p[2] + draw(-2, 6);
+        int t = p[2] + draw(-1, 4);
         return same("heard(" + p[0] + ", " + p[1] + ", " + t + ", " + e + ", " + s + ")",
             x -> x.heard(p[0], p[1], t, e, s), x -> x.heard(p[0], p[1], t, e, s));
     }
@@ -253,31 +282,31 @@ public final class ModelTest {
 
     private boolean judges() {
         int way = dice.nextInt(10);
-        if (way < 2) {
+        if (way < 3) {
             int by = near(-20, 20);
             int side = near(0, 1);
             boolean out = dice.nextInt(3) == 0 ? dice.nextBoolean() : by > side * 5 - 2;
             return same("call(" + by + ", " + side + ", " + out + ")", x -> x.call(by, side, out),
                 x -> x.call(by, side, out));
         }
-        if (way == 2) {
+        if (way == 3) {
             int side = near(0, 1);
             int what = near(0, 1);
             return same("lean(" + side + ", " + what + ")", x -> x.lean(side, what), x -> x.lean(side, what));
         }
-        if (way == 3) {
+        if (way == 4) {
             int out = near(0, 100);
             boolean was = dice.nextInt(3) == 0 ? dice.nextBoolean() : out > 50;
             return same("truly(" + out + ", " + was + ")", x -> x.truly(out, was), x -> x.truly(out, was));
         }
-        if (way == 4) {
+        if (way == 5) {
             int what = near(0, 2);
             return same("bestSure(" + what + ")", x -> x.bestSure(what), x -> x.bestSure(what));
         }
-        if (way == 5) {
-            return sorts();
+        if (way == 6) {
+            return dice.nextInt(3) == 0 ? sorts() : worth();
         }
-        return way < 8 ? worth() : when();
+        return way < 9 ? worth() : when();
     }
 
     /** Four shares that mostly are ten together. */
@@ -347,6 +376,15 @@ public final class ModelTest {
         }
     }
 
+    /** Looks a few times for a sight that whose is not BAD of. */
+    private int otherThanBlur() {
+        int sight = near(0, Math.max(0, model.count(2) - 1));
+        for (int i = 0; i < 4 && model.whose(sight) == Model.BAD; i++) {
+            sight = near(0, Math.max(0, model.count(2) - 1));
+        }
+        return sight;
+    }
+
     private boolean questions() {
         int what = near(0, 2);
         switch (dice.nextInt(8)) {
@@ -366,7 +404,7 @@ public final class ModelTest {
             case 5:
                 return same("moved()", WasItOut::moved, Model::moved);
             case 6:
-                int sight = near(0, Math.max(0, model.count(2) - 1));
+                int sight = otherThanBlur();
                 return same("whose(" + sight + ")", x -> x.whose(sight), x -> x.whose(sight));
             default:
                 int part = near(0, 1);
