@@ -1,6 +1,6 @@
 import java.util.Arrays;
 
-/** Was it out: see README.md for how to use it; the document's promises are told by number there. */
+/** Was it out: README.md tells how to use it, the document what each call promises. */
 public final class WasItOut {
     public static final int BAD = -1, NO = -2, FULL = -3, NONE = -4;
 

@@ -600,6 +600,13 @@ public final class PromisesTest {
         for (int v : new int[] {-1, 3, LOW, HIGH}) {
             due("odds(" + v + ")", x.odds(v), BAD);
         }
+        for (int line = -15; line <= 14; line++) {
+            for (int t = 51; t <= 100; t++) {
+                int out = outOfAll(line);
+                int called = 100 * out >= t * 189 ? 2 : 100 * (189 - out) >= t * 189 ? 0 : 1;
+                due("odds(2) by a line at " + line + ", sure " + t, laid("l0," + line + ";t" + t + ";").odds(2), called);
+            }
+        }
         WasItOut y = laid("g0;");
         due("without a touch neither out", y.odds(0), 0);
         due("nor in", y.odds(1), 0);
