@@ -67,6 +67,10 @@ public final class RulesTest {
             }
         }
         must(open.equals(new TreeSet<>(Arrays.asList(FACE))), "rule 1: the face is the document's, not " + open);
+        for (Method m : WasItOut.class.getDeclaredMethods()) {
+            boolean named = open.stream().anyMatch(f -> f.contains(" " + m.getName() + "("));
+            must(Modifier.isPublic(m.getModifiers()) || !named, "rule 1: " + m + " bears a name of the face");
+        }
         Set<String> constants = new TreeSet<>();
         for (Field f : WasItOut.class.getDeclaredFields()) {
             if (Modifier.isPublic(f.getModifiers())) {
